@@ -244,6 +244,10 @@ public final class ChangesTest {
         DUE.is("leave(0)", q.leave(0), true);
         DUE.is("groups", View.groups(q), "0:1,2/0+0 0:3,5/0+2 0:6,7,8/0+4");
         DUE.is("counted(2)", q.counted(2), 3);
+        steps(q, 3, 3, 3);
+        DUE.is("leave of the first of the last group", q.leave(6), true);
+        DUE.is("groups", View.groups(q), "1:1,2/0+0 1:3,5/0+2 0:7,8/0+4");
+        DUE.is("counted(2)", q.counted(2), 4);
     }
 
     private static void leaveTheLastOfAGroup() {
