@@ -26,20 +26,6 @@ public final class ChangesTest {
         DUE.finish();
     }
 
-    private static MergeQueue filled(int most, int width, int again, int changes) {
-        MergeQueue q = new MergeQueue(most, width, again);
-        for (int i = 0; i < changes; i++) {
-            q.change(5, 1 << i % 32);
-        }
-        return q;
-    }
-
-    private static void steps(MergeQueue q, int... kinds) {
-        for (int kind : kinds) {
-            DUE.is("step()", q.step(), kind);
-        }
-    }
-
     private static void newObjectIsEmpty() {
         MergeQueue q = new MergeQueue(2, 2, 2);
         DUE.is("groups of a new one", q.groups(), 0);
@@ -57,7 +43,7 @@ public final class ChangesTest {
         int[] given = {Integer.MIN_VALUE, -1, 0, 1, 2, 7, 8, 9, Integer.MAX_VALUE};
         int[] due = {1, 1, 1, 1, 2, 7, 8, 8, 8};
         for (int i = 0; i < given.length; i++) {
-            MergeQueue q = filled(given[i], 1, 1, 20);
+            MergeQueue q = Made.filled(given[i], 1, 1, 20);
             q.step();
             DUE.is("size with most " + given[i], q.group(0, 1), due[i]);
         }
@@ -67,7 +53,7 @@ public final class ChangesTest {
         int[] given = {Integer.MIN_VALUE, -1, 0, 1, 2, 3, 4, 5, Integer.MAX_VALUE};
         int[] due = {1, 1, 1, 1, 2, 3, 4, 4, 4};
         for (int i = 0; i < given.length; i++) {
-            MergeQueue q = filled(1, given[i], 1, 20);
+            MergeQueue q = Made.filled(1, given[i], 1, 20);
             for (int k = 0; k < 20; k++) {
                 q.step();
             }
@@ -79,8 +65,8 @@ public final class ChangesTest {
         int[] given = {Integer.MIN_VALUE, -1, 0, 1, 2, 3, 4, Integer.MAX_VALUE};
         int[] due = {1, 1, 1, 1, 2, 3, 3, 3};
         for (int i = 0; i < given.length; i++) {
-            MergeQueue q = filled(1, 1, given[i], 1);
-            steps(q, 4, 3);
+            MergeQueue q = Made.filled(1, 1, given[i], 1);
+            DUE.steps(q, 4, 3);
             int asked = 1;
             while (asked < 20 && q.answer(0, false) == 1) {
                 asked++;
@@ -120,7 +106,7 @@ public final class ChangesTest {
     }
 
     private static void thoseGoneCountAmongTheForty() {
-        MergeQueue q = filled(1, 1, 1, 40);
+        MergeQueue q = Made.filled(1, 1, 1, 40);
         DUE.is("leave(7)", q.leave(7), true);
         DUE.is("change after one left", q.change(5, 5), NONE);
     }
@@ -148,30 +134,30 @@ public final class ChangesTest {
         DUE.is("waiting", View.waiting(q), "2,0,1,3");
         q.change(9, 0);
         DUE.is("waiting", View.waiting(q), "2,0,1,4,3");
-        steps(q, 4);
+        DUE.steps(q, 4);
         DUE.is("groups", View.groups(q), "0:2,0/0+0");
     }
 
     private static void jumpIsRefused() {
-        MergeQueue q = filled(1, 1, 1, 3);
+        MergeQueue q = Made.filled(1, 1, 1, 3);
         DUE.is("jump(1)", q.jump(1), true);
         DUE.is("jump(1) again", q.jump(1), false);
         DUE.is("jump(-1)", q.jump(-1), false);
         DUE.is("jump(3)", q.jump(3), false);
         q.jump(0);
         DUE.is("a second jump moves nothing", View.waiting(q), "1,0,2");
-        steps(q, 4);
+        DUE.steps(q, 4);
         DUE.is("jump of one in a group", q.jump(1), false);
-        steps(q, 3);
+        DUE.steps(q, 3);
         q.answer(0, true);
-        steps(q, 1);
+        DUE.steps(q, 1);
         DUE.is("jump of one in the tree", q.jump(1), false);
         q.leave(2);
         DUE.is("jump of one that is out", q.jump(2), false);
     }
 
     private static void conflictIsToldOnce() {
-        MergeQueue q = filled(8, 1, 1, 4);
+        MergeQueue q = Made.filled(8, 1, 1, 4);
         DUE.is("conflict(0, 2)", q.conflict(0, 2), 1);
         DUE.is("conflict(0, 2) again", q.conflict(0, 2), 0);
         DUE.is("conflict(2, 0)", q.conflict(2, 0), 0);
@@ -180,7 +166,7 @@ public final class ChangesTest {
     }
 
     private static void conflictIsRefused() {
-        MergeQueue q = filled(1, 1, 1, 5);
+        MergeQueue q = Made.filled(1, 1, 1, 5);
         DUE.is("conflict(1, 1)", q.conflict(1, 1), -1);
         DUE.is("conflict(-1, 1)", q.conflict(-1, 1), -1);
         DUE.is("conflict(1, -1)", q.conflict(1, -1), -1);
@@ -189,16 +175,16 @@ public final class ChangesTest {
         DUE.is("conflict(7, 7)", q.conflict(7, 7), -1);
         q.conflict(0, 4);
         q.conflict(3, 4);
-        steps(q, 4);
+        DUE.steps(q, 4);
         DUE.is("told already, but one is in a group", q.conflict(0, 4), -1);
         DUE.is("the other way round", q.conflict(4, 0), -1);
         DUE.is("new, but one is in a group", q.conflict(1, 0), -1);
-        steps(q, 3);
+        DUE.steps(q, 3);
         q.answer(0, true);
-        steps(q, 1, 4, 3);
+        DUE.steps(q, 1, 4, 3);
         DUE.is("one in the tree, one in a group", q.conflict(0, 1), -1);
         q.answer(0, true);
-        steps(q, 1);
+        DUE.steps(q, 1);
         DUE.is("both in the tree", q.conflict(0, 1), -1);
         DUE.is("one is out", View.change(q, 4), "3 2 0");
         DUE.is("told already, but one is out", q.conflict(3, 4), -1);
@@ -207,10 +193,10 @@ public final class ChangesTest {
     }
 
     private static void conflictWithTheTree() {
-        MergeQueue q = filled(2, 1, 1, 6);
-        steps(q, 4, 3);
+        MergeQueue q = Made.filled(2, 1, 1, 6);
+        DUE.steps(q, 4, 3);
         q.answer(0, true);
-        steps(q, 1);
+        DUE.steps(q, 1);
         DUE.is("landed", View.landed(q), "0,1");
         DUE.is("conflict(3, 1)", q.conflict(3, 1), 1);
         DUE.is("change 3", View.change(q, 3), "3 2 1");
@@ -221,8 +207,8 @@ public final class ChangesTest {
     }
 
     private static void leaveWhileWaiting() {
-        MergeQueue q = filled(2, 1, 1, 4);
-        steps(q, 4, 3);
+        MergeQueue q = Made.filled(2, 1, 1, 4);
+        DUE.steps(q, 4, 3);
         DUE.is("leave(3)", q.leave(3), true);
         DUE.is("change 3", View.change(q, 3), "3 3 -1");
         DUE.is("waiting", View.waiting(q), "2");
@@ -231,8 +217,8 @@ public final class ChangesTest {
     }
 
     private static void leaveAGroup() {
-        MergeQueue q = filled(3, 3, 3, 9);
-        steps(q, 4, 3, 4, 3, 4, 3);
+        MergeQueue q = Made.filled(3, 3, 3, 9);
+        DUE.steps(q, 4, 3, 4, 3, 4, 3);
         q.answer(0, false);
         q.answer(1, false);
         q.answer(2, false);
@@ -244,15 +230,15 @@ public final class ChangesTest {
         DUE.is("leave(0)", q.leave(0), true);
         DUE.is("groups", View.groups(q), "0:1,2/0+0 0:3,5/0+2 0:6,7,8/0+4");
         DUE.is("counted(2)", q.counted(2), 3);
-        steps(q, 3, 3, 3);
+        DUE.steps(q, 3, 3, 3);
         DUE.is("leave of the first of the last group", q.leave(6), true);
         DUE.is("groups", View.groups(q), "1:1,2/0+0 1:3,5/0+2 0:7,8/0+4");
         DUE.is("counted(2)", q.counted(2), 4);
     }
 
     private static void leaveTheLastOfAGroup() {
-        MergeQueue q = filled(1, 3, 1, 3);
-        steps(q, 4, 3, 4, 3, 4, 3);
+        MergeQueue q = Made.filled(1, 3, 1, 3);
+        DUE.steps(q, 4, 3, 4, 3, 4, 3);
         DUE.is("leave(0)", q.leave(0), true);
         DUE.is("groups", View.groups(q), "0:1/0+0 0:2/0+1");
         DUE.is("the empty one began anew, too", q.counted(2), 3);
@@ -264,8 +250,8 @@ public final class ChangesTest {
     }
 
     private static void leaveBeginsAnewWhateverTheState() {
-        MergeQueue q = filled(2, 4, 2, 8);
-        steps(q, 4, 3, 4, 3, 4, 3, 4, 3);
+        MergeQueue q = Made.filled(2, 4, 2, 8);
+        DUE.steps(q, 4, 3, 4, 3, 4, 3, 4, 3);
         q.answer(0, false);
         q.answer(0, true);
         q.answer(1, false);
@@ -278,26 +264,26 @@ public final class ChangesTest {
     }
 
     private static void leaveIsRefused() {
-        MergeQueue q = filled(1, 1, 1, 2);
+        MergeQueue q = Made.filled(1, 1, 1, 2);
         DUE.is("leave(-1)", q.leave(-1), false);
         DUE.is("leave(2)", q.leave(2), false);
         DUE.is("leave(1)", q.leave(1), true);
         DUE.is("leave(1) again", q.leave(1), false);
-        steps(q, 4, 3);
+        DUE.steps(q, 4, 3);
         q.answer(0, true);
-        steps(q, 1);
+        DUE.steps(q, 1);
         DUE.is("leave of one in the tree", q.leave(0), false);
         DUE.is("change 0", View.change(q, 0), "2 0 -1");
     }
 
     private static void pauseToggles() {
-        MergeQueue q = filled(1, 2, 1, 3);
+        MergeQueue q = Made.filled(1, 2, 1, 3);
         DUE.is("pause(false)", q.pause(false), false);
         DUE.is("pause(true)", q.pause(true), true);
         DUE.is("pause(true) again", q.pause(true), false);
-        steps(q, 0);
+        DUE.steps(q, 0);
         DUE.is("pause(false)", q.pause(false), true);
         DUE.is("pause(false) again", q.pause(false), false);
-        steps(q, 4);
+        DUE.steps(q, 4);
     }
 }

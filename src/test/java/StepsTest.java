@@ -34,20 +34,6 @@ public final class StepsTest {
         DUE.finish();
     }
 
-    private static MergeQueue filled(int most, int width, int again, int changes) {
-        MergeQueue q = new MergeQueue(most, width, again);
-        for (int i = 0; i < changes; i++) {
-            q.change(5, 1 << i % 32);
-        }
-        return q;
-    }
-
-    private static void steps(MergeQueue q, int... kinds) {
-        for (int i = 0; i < kinds.length; i++) {
-            DUE.is("step() " + i, q.step(), kinds[i]);
-        }
-    }
-
     private static void formingTakesThoseInOrder() {
         MergeQueue q = new MergeQueue(3, 2, 1);
         int[] ranks = {1, 7, 3, 9, 7};
@@ -55,94 +41,94 @@ public final class StepsTest {
             q.change(rank, 0);
         }
         q.jump(0);
-        steps(q, 4);
+        DUE.steps(q, 4);
         DUE.is("groups", View.groups(q), "0:0,3,1/0+0");
         DUE.is("waiting", View.waiting(q), "4,2");
         DUE.is("change 3", View.change(q, 3), "1 0 -1");
-        steps(q, 3, 4);
+        DUE.steps(q, 3, 4);
         DUE.is("groups", View.groups(q), "1:0,3,1/0+0 0:4,2/0+3");
         DUE.is("waiting", View.waiting(q), "");
     }
 
     private static void formingSkipsConflicts() {
-        MergeQueue q = filled(3, 1, 1, 6);
+        MergeQueue q = Made.filled(3, 1, 1, 6);
         q.conflict(0, 1);
         q.conflict(2, 3);
-        steps(q, 4);
+        DUE.steps(q, 4);
         DUE.is("groups", View.groups(q), "0:0,2,4/0+0");
         DUE.is("waiting", View.waiting(q), "1,3,5");
     }
 
     private static void formingSkipsConflictsWithGroupsInFront() {
-        MergeQueue q = filled(2, 3, 1, 6);
+        MergeQueue q = Made.filled(2, 3, 1, 6);
         q.conflict(0, 2);
         q.conflict(3, 4);
         q.conflict(1, 5);
-        steps(q, 4, 3, 4);
+        DUE.steps(q, 4, 3, 4);
         DUE.is("groups", View.groups(q), "1:0,1/0+0 0:3/0+2");
         DUE.is("waiting", View.waiting(q), "2,4,5");
-        steps(q, 3, 0);
+        DUE.steps(q, 3, 0);
     }
 
     private static void formingNeedsOneThatFits() {
-        MergeQueue q = filled(2, 2, 1, 2);
+        MergeQueue q = Made.filled(2, 2, 1, 2);
         q.conflict(0, 1);
-        steps(q, 4, 3, 0);
+        DUE.steps(q, 4, 3, 0);
         DUE.is("groups()", q.groups(), 1);
         q.leave(0);
-        steps(q, 4);
+        DUE.steps(q, 4);
         DUE.is("a conflict with one that is out is none", View.groups(q), "0:1/0+0");
     }
 
     private static void askingComesBeforeForming() {
-        MergeQueue q = filled(1, 2, 1, 2);
-        steps(q, 4, 3, 4, 3, 0);
+        MergeQueue q = Made.filled(1, 2, 1, 2);
+        DUE.steps(q, 4, 3, 4, 3, 0);
         DUE.is("groups", View.groups(q), "1:0/0+0 1:1/0+1");
     }
 
     private static void askingIsBoundByWidth() {
-        MergeQueue q = filled(4, 1, 1, 4);
-        steps(q, 4, 3, 0);
+        MergeQueue q = Made.filled(4, 1, 1, 4);
+        DUE.steps(q, 4, 3, 0);
         q.answer(0, false);
-        steps(q, 2, 3, 0);
+        DUE.steps(q, 2, 3, 0);
         DUE.is("groups", View.groups(q), "1:0,1/0+0 0:2,3/0+2");
         q.answer(0, true);
-        steps(q, 1, 3, 0);
+        DUE.steps(q, 1, 3, 0);
         DUE.is("groups", View.groups(q), "1:2,3/0+0");
     }
 
     private static void askingStopsBehindAFailedGroup() {
-        MergeQueue q = filled(1, 3, 1, 3);
-        steps(q, 4, 3, 4, 3);
+        MergeQueue q = Made.filled(1, 3, 1, 3);
+        DUE.steps(q, 4, 3, 4, 3);
         q.answer(1, false);
-        steps(q, 4, 0);
+        DUE.steps(q, 4, 0);
         DUE.is("groups", View.groups(q), "1:0/0+0 2:1/1+1 0:2/0+2");
         q.answer(0, true);
-        steps(q, 1, 2, 3, 0);
+        DUE.steps(q, 1, 2, 3, 0);
         DUE.is("groups", View.groups(q), "1:2/0+0");
     }
 
     private static void askingGoesOnBehindAPassedGroup() {
-        MergeQueue q = filled(1, 3, 1, 3);
-        steps(q, 4, 3, 4, 3);
+        MergeQueue q = Made.filled(1, 3, 1, 3);
+        DUE.steps(q, 4, 3, 4, 3);
         q.answer(1, true);
-        steps(q, 4, 3, 0);
+        DUE.steps(q, 4, 3, 0);
         DUE.is("groups", View.groups(q), "1:0/0+0 3:1/0+1 1:2/0+2");
     }
 
     private static void landingKeepsOrderAndStates() {
-        MergeQueue q = filled(2, 3, 2, 6);
+        MergeQueue q = Made.filled(2, 3, 2, 6);
         q.jump(3);
-        steps(q, 4, 3, 4, 3, 4, 3);
+        DUE.steps(q, 4, 3, 4, 3, 4, 3);
         q.answer(0, true);
         q.answer(1, false);
         q.answer(2, true);
-        steps(q, 1);
+        DUE.steps(q, 1);
         DUE.is("landed", View.landed(q), "3,0");
         DUE.is("groups", View.groups(q), "1:1,2/1+0 3:4,5/0+2");
         DUE.is("change 0", View.change(q, 0), "2 0 -1");
         q.answer(0, true);
-        steps(q, 1, 1, 0);
+        DUE.steps(q, 1, 1, 0);
         DUE.is("landed", View.landed(q), "3,0,1,2,4,5");
         DUE.is("landed(-1)", q.landed(-1), NONE);
         DUE.is("landed(6)", q.landed(6), NONE);
@@ -150,28 +136,28 @@ public final class StepsTest {
     }
 
     private static void landingSendsConflictsOut() {
-        MergeQueue q = filled(2, 1, 1, 6);
+        MergeQueue q = Made.filled(2, 1, 1, 6);
         q.conflict(4, 1);
         q.conflict(5, 0);
         q.conflict(2, 3);
-        steps(q, 4, 3);
+        DUE.steps(q, 4, 3);
         DUE.is("it waits till then", View.change(q, 4), "0 0 -1");
         q.answer(0, true);
         DUE.is("it waits till then", View.waiting(q), "2,3,4,5");
-        steps(q, 1);
+        DUE.steps(q, 1);
         DUE.is("waiting", View.waiting(q), "2,3");
         DUE.is("change 4", View.change(q, 4), "3 2 1");
         DUE.is("change 5", View.change(q, 5), "3 2 0");
     }
 
     private static void landingWaitsForTheFirst() {
-        MergeQueue q = filled(1, 2, 1, 2);
-        steps(q, 4, 3, 4, 3);
+        MergeQueue q = Made.filled(1, 2, 1, 2);
+        DUE.steps(q, 4, 3, 4, 3);
         q.answer(1, true);
-        steps(q, 0);
+        DUE.steps(q, 0);
         DUE.is("landed(0)", q.landed(0), NONE);
         q.answer(0, true);
-        steps(q, 1, 1, 0);
+        DUE.steps(q, 1, 1, 0);
         DUE.is("landed", View.landed(q), "0,1");
     }
 
@@ -180,57 +166,57 @@ public final class StepsTest {
             "0:0,1,2/0+0 0:3,4/0+3", "0:0,1,2/0+0 0:3,4,5/0+3", "0:0,1,2,3/0+0 0:4,5,6/0+4",
             "0:0,1,2,3/0+0 0:4,5,6,7/0+4"};
         for (int size = 2; size <= 8; size++) {
-            MergeQueue q = filled(8, 1, 1, size);
-            steps(q, 4, 3);
+            MergeQueue q = Made.filled(8, 1, 1, size);
+            DUE.steps(q, 4, 3);
             q.answer(0, false);
-            steps(q, 2);
+            DUE.steps(q, 2);
             DUE.is("halves of " + size, View.groups(q), due[size]);
             DUE.is("counted(1)", q.counted(1), 1);
         }
     }
 
     private static void halvingDownToOne() {
-        MergeQueue q = filled(4, 1, 1, 4);
-        steps(q, 4, 3);
+        MergeQueue q = Made.filled(4, 1, 1, 4);
+        DUE.steps(q, 4, 3);
         q.answer(0, false);
-        steps(q, 2, 3);
+        DUE.steps(q, 2, 3);
         q.answer(0, true);
-        steps(q, 1, 3);
+        DUE.steps(q, 1, 3);
         q.answer(0, false);
-        steps(q, 2, 3);
+        DUE.steps(q, 2, 3);
         q.answer(0, false);
-        steps(q, 2);
+        DUE.steps(q, 2);
         DUE.is("change 2", View.change(q, 2), "3 1 2");
         DUE.is("groups", View.groups(q), "0:3/0+0");
         DUE.is("counted(1)", q.counted(1), 2);
-        steps(q, 3);
+        DUE.steps(q, 3);
         q.answer(0, true);
-        steps(q, 1, 0);
+        DUE.steps(q, 1, 0);
         DUE.is("landed", View.landed(q), "0,1,3");
     }
 
     private static void halvingBeginsAnewBehind() {
-        MergeQueue q = filled(2, 4, 2, 7);
-        steps(q, 4, 3, 4, 3, 4, 3, 4, 3);
+        MergeQueue q = Made.filled(2, 4, 2, 7);
+        DUE.steps(q, 4, 3, 4, 3, 4, 3, 4, 3);
         q.answer(0, false);
         q.answer(0, false);
         q.answer(1, true);
         q.answer(2, false);
         q.answer(3, false);
         q.answer(3, false);
-        steps(q, 2);
+        DUE.steps(q, 2);
         DUE.is("groups", View.groups(q), "0:0/0+0 0:1/0+1 0:2,3/0+2 0:4,5/0+4 0:6/0+6");
         DUE.is("only the asked one counts", q.counted(2), 1);
-        steps(q, 3, 3, 3, 3, 0);
+        DUE.steps(q, 3, 3, 3, 3, 0);
         DUE.is("groups", View.groups(q), "1:0/0+0 1:1/0+1 1:2,3/0+2 1:4,5/0+4 0:6/0+6");
     }
 
     private static void outByOneBeginsAnewBehind() {
-        MergeQueue q = filled(1, 3, 1, 3);
-        steps(q, 4, 3, 4, 3, 4, 3);
+        MergeQueue q = Made.filled(1, 3, 1, 3);
+        DUE.steps(q, 4, 3, 4, 3, 4, 3);
         q.answer(0, false);
         q.answer(1, true);
-        steps(q, 2);
+        DUE.steps(q, 2);
         DUE.is("groups", View.groups(q), "0:1/0+0 0:2/0+1");
         DUE.is("change 0", View.change(q, 0), "3 1 0");
         DUE.is("counted(1)", q.counted(1), 0);
@@ -238,34 +224,34 @@ public final class StepsTest {
     }
 
     private static void halvingWaitsForTheFirst() {
-        MergeQueue q = filled(2, 2, 1, 4);
-        steps(q, 4, 3, 4, 3);
+        MergeQueue q = Made.filled(2, 2, 1, 4);
+        DUE.steps(q, 4, 3, 4, 3);
         q.answer(1, false);
-        steps(q, 0);
+        DUE.steps(q, 0);
         DUE.is("groups", View.groups(q), "1:0,1/0+0 2:2,3/1+2");
     }
 
     private static void pauseStopsAskingAndFormingOnly() {
-        MergeQueue q = filled(2, 2, 1, 6);
-        steps(q, 4, 3, 4, 3);
+        MergeQueue q = Made.filled(2, 2, 1, 6);
+        DUE.steps(q, 4, 3, 4, 3);
         q.pause(true);
         q.answer(0, true);
         q.answer(1, false);
-        steps(q, 1, 2, 0);
+        DUE.steps(q, 1, 2, 0);
         DUE.is("groups", View.groups(q), "0:2/0+0 0:3/0+1");
         q.pause(false);
-        steps(q, 3, 3, 0);
+        DUE.steps(q, 3, 3, 0);
         q.answer(0, true);
         q.pause(true);
         DUE.is("answers go on", q.answer(1, true), 3);
-        steps(q, 1, 1, 0);
+        DUE.steps(q, 1, 1, 0);
         q.pause(false);
-        steps(q, 4);
+        DUE.steps(q, 4);
     }
 
     private static void answersAreCounted() {
-        MergeQueue q = filled(2, 2, 3, 4);
-        steps(q, 4, 3, 4, 3);
+        MergeQueue q = Made.filled(2, 2, 3, 4);
+        DUE.steps(q, 4, 3, 4, 3);
         DUE.is("answer(0, false)", q.answer(0, false), 1);
         DUE.is("answer(0, false)", q.answer(0, false), 1);
         DUE.is("group(0, 2)", q.group(0, 2), 2);
@@ -277,11 +263,11 @@ public final class StepsTest {
     }
 
     private static void answerIsRefused() {
-        MergeQueue q = filled(1, 3, 1, 3);
+        MergeQueue q = Made.filled(1, 3, 1, 3);
         DUE.is("no group", q.answer(0, true), -1);
-        steps(q, 4);
+        DUE.steps(q, 4);
         DUE.is("a new one", q.answer(0, true), -1);
-        steps(q, 3);
+        DUE.steps(q, 3);
         DUE.is("answer(1, true)", q.answer(1, true), -1);
         DUE.is("answer(-1, true)", q.answer(-1, true), -1);
         q.answer(0, true);
@@ -291,8 +277,8 @@ public final class StepsTest {
     }
 
     private static void failuresStayWhenItPasses() {
-        MergeQueue q = filled(1, 2, 3, 2);
-        steps(q, 4, 3, 4, 3);
+        MergeQueue q = Made.filled(1, 2, 3, 2);
+        DUE.steps(q, 4, 3, 4, 3);
         q.answer(1, false);
         q.answer(1, false);
         DUE.is("answer(1, true)", q.answer(1, true), 3);
@@ -300,8 +286,8 @@ public final class StepsTest {
     }
 
     private static void groupAsksAreRefused() {
-        MergeQueue q = filled(2, 2, 2, 4);
-        steps(q, 4, 3, 4);
+        MergeQueue q = Made.filled(2, 2, 2, 4);
+        DUE.steps(q, 4, 3, 4);
         DUE.is("groups()", q.groups(), 2);
         int[] places = {-1, 2, 40, Integer.MIN_VALUE, Integer.MAX_VALUE};
         for (int place : places) {
@@ -315,8 +301,8 @@ public final class StepsTest {
     }
 
     private static void memberIsNone() {
-        MergeQueue q = filled(2, 2, 2, 4);
-        steps(q, 4, 3, 4);
+        MergeQueue q = Made.filled(2, 2, 2, 4);
+        DUE.steps(q, 4, 3, 4);
         DUE.is("member(0, 1)", q.member(0, 1), 1);
         DUE.is("member(0, 2)", q.member(0, 2), NONE);
         DUE.is("member(0, -1)", q.member(0, -1), NONE);
@@ -329,27 +315,27 @@ public final class StepsTest {
     }
 
     private static void byTellsTheFirstOfTheTree() {
-        MergeQueue q = filled(3, 1, 1, 5);
+        MergeQueue q = Made.filled(3, 1, 1, 5);
         q.jump(2);
         q.conflict(4, 0);
         q.conflict(4, 1);
         q.conflict(4, 3);
-        steps(q, 4, 3);
+        DUE.steps(q, 4, 3);
         q.answer(0, true);
-        steps(q, 1);
+        DUE.steps(q, 1);
         DUE.is("landed", View.landed(q), "2,0,1");
         DUE.is("change 4", View.change(q, 4), "3 2 0");
-        steps(q, 4, 3);
+        DUE.steps(q, 4, 3);
         q.answer(0, true);
-        steps(q, 1);
+        DUE.steps(q, 1);
         DUE.is("change 4 later", View.change(q, 4), "3 2 0");
-        MergeQueue r = filled(2, 1, 1, 3);
+        MergeQueue r = Made.filled(2, 1, 1, 3);
         r.jump(1);
         r.conflict(2, 0);
         r.conflict(2, 1);
-        steps(r, 4, 3);
+        DUE.steps(r, 4, 3);
         r.answer(0, true);
-        steps(r, 1);
+        DUE.steps(r, 1);
         DUE.is("first of the tree, not the least", View.change(r, 2), "3 2 1");
         DUE.is("by(-1)", r.by(-1), NONE);
         DUE.is("by(3)", r.by(3), NONE);
@@ -360,12 +346,12 @@ public final class StepsTest {
     }
 
     private static void byTellsTheTreeThen() {
-        MergeQueue q = filled(1, 1, 1, 4);
+        MergeQueue q = Made.filled(1, 1, 1, 4);
         boolean[] passes = {true, false, true, false};
         for (boolean pass : passes) {
-            steps(q, 4, 3);
+            DUE.steps(q, 4, 3);
             q.answer(0, pass);
-            steps(q, pass ? 1 : 2);
+            DUE.steps(q, pass ? 1 : 2);
         }
         DUE.is("change 1", View.change(q, 1), "3 1 1");
         DUE.is("change 3", View.change(q, 3), "3 1 2");
@@ -377,21 +363,21 @@ public final class StepsTest {
         q.change(5, 3);
         q.change(5, 1 << 31);
         q.change(4, 64);
-        steps(q, 4, 3);
+        DUE.steps(q, 4, 3);
         DUE.is("nothing has landed", q.counted(3), 0);
         q.answer(0, true);
-        steps(q, 1);
+        DUE.steps(q, 1);
         DUE.is("counted(3)", q.counted(3), 7 | 1 << 31);
         DUE.is("counted(4)", q.counted(4), NONE);
         DUE.is("counted(-1)", q.counted(-1), NONE);
     }
 
     private static void sevenGroupsStandAtOnce() {
-        MergeQueue q = filled(8, 4, 1, 40);
-        steps(q, 4, 3, 4, 3, 4, 3, 4, 3, 0);
+        MergeQueue q = Made.filled(8, 4, 1, 40);
+        DUE.steps(q, 4, 3, 4, 3, 4, 3, 4, 3, 0);
         for (int i = 0; i < 3; i++) {
             q.answer(0, false);
-            steps(q, 2, 3);
+            DUE.steps(q, 2, 3);
         }
         DUE.is("groups()", q.groups(), 7);
         DUE.is("group(6, 3)", q.group(6, 3), 24);
@@ -401,7 +387,7 @@ public final class StepsTest {
     }
 
     private static void allFortyLand() {
-        MergeQueue q = filled(8, 4, 1, 40);
+        MergeQueue q = Made.filled(8, 4, 1, 40);
         int landings = 0;
         for (int i = 0; i < 40; i++) {
             int kind = q.step();

@@ -20,6 +20,13 @@ public final class Due {
         }
     }
 
+    /** Does a step for each kind, which is the one that is due. */
+    public void steps(MergeQueue q, int... kinds) {
+        for (int i = 0; i < kinds.length; i++) {
+            is("step() " + i, q.step(), kinds[i]);
+        }
+    }
+
     public void tell(String fault) {
         wrong++;
         System.out.println(fault);
