@@ -2,20 +2,23 @@
 public final class WrongInputsTest {
     private static final Due DUE = new Due();
     private static final int NONE = MergeQueue.NONE;
-    private static final int[] OUTSIDE = {Integer.MIN_VALUE, Integer.MIN_VALUE + 1, -41, -2, -1, 40,
-        41, 63, 64, 65, 1 << 16, Integer.MAX_VALUE - 1, Integer.MAX_VALUE};
 
     public static void main(String[] args) {
-        for (int calls = 0; calls < 60; calls++) {
-            String untouched = show(stateAfter(calls));
-            for (int x : OUTSIDE) {
-                // A new object for each, since one is used for at most 512 calls.
-                MergeQueue q = stateAfter(calls);
-                askAtEdge(q, x);
-                DUE.is("state " + calls + " after calls with " + x, show(q), untouched);
-            }
+        for (int calls = 0; calls < 45; calls++) {
+            checkAll(calls, Outside.below());
+            checkAll(calls, Outside.from(40));
         }
         DUE.finish();
+    }
+
+    /** With a new object for each, since one is used for at most 512 calls. */
+    private static void checkAll(int calls, int[] outside) {
+        String untouched = View.all(stateAfter(calls));
+        for (int x : outside) {
+            MergeQueue q = stateAfter(calls);
+            askAtEdge(q, x);
+            DUE.is("state " + calls + " after calls with " + x, View.all(q), untouched);
+        }
     }
 
     /** A mixed state, further on for each more of the calls that lead to it. */
@@ -57,17 +60,5 @@ public final class WrongInputsTest {
             DUE.is("conflict(" + small + ", " + x + ")", q.conflict(small, x), -1);
         }
         DUE.is("conflict(" + x + ", " + x + ")", q.conflict(x, x), -1);
-    }
-
-    private static String show(MergeQueue q) {
-        StringBuilder text = new StringBuilder();
-        text.append(View.groups(q)).append('|').append(View.waiting(q)).append('|').append(View.landed(q));
-        for (int change = 0; change < 40; change++) {
-            text.append('|').append(q.where(change)).append(q.why(change));
-        }
-        for (int what = 0; what < 4; what++) {
-            text.append('|').append(q.counted(what));
-        }
-        return text.toString();
     }
 }

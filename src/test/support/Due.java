@@ -1,22 +1,49 @@
+import java.util.function.IntUnaryOperator;
+
 /** Compares answers with those that are due, prints each that differs, and ends the test. */
 public final class Due {
+    private String part = "";
+    private int compared;
     private int wrong;
 
-    public void is(String call, int got, int want) {
-        if (got != want) {
-            tell(call + " answered " + got + ", due is " + want);
+    /** Runs the test of one part; what is told in it bears the part's name. */
+    public void in(String name, Runnable test) {
+        int before = compared;
+        part = name + ": ";
+        try {
+            test.run();
+        } catch (RuntimeException thrown) {
+            tell("threw " + thrown);
         }
+        if (compared == before) {
+            tell("compared nothing");
+        }
+        part = "";
+    }
+
+    public void is(String call, int got, int want) {
+        compare(call, String.valueOf(got), String.valueOf(want));
     }
 
     public void is(String call, boolean got, boolean want) {
-        if (got != want) {
+        compare(call, String.valueOf(got), String.valueOf(want));
+    }
+
+    public void is(String call, String got, String want) {
+        compare(call, got, want);
+    }
+
+    private void compare(String call, String got, String want) {
+        compared++;
+        if (!got.equals(want)) {
             tell(call + " answered " + got + ", due is " + want);
         }
     }
 
-    public void is(String call, String got, String want) {
-        if (!got.equals(want)) {
-            tell(call + " answered " + got + ", due is " + want);
+    /** The call answers the same for each of the arguments. */
+    public void each(String call, int[] arguments, IntUnaryOperator asked, int want) {
+        for (int argument : arguments) {
+            is(call + " of " + argument, asked.applyAsInt(argument), want);
         }
     }
 
@@ -27,9 +54,16 @@ public final class Due {
         }
     }
 
+    /** What the object shows is the same before and after the calls. */
+    public void unchanged(MergeQueue q, Runnable calls) {
+        String before = View.all(q);
+        calls.run();
+        is("all that is shown", View.all(q), before);
+    }
+
     public void tell(String fault) {
         wrong++;
-        System.out.println(fault);
+        System.out.println(part + fault);
     }
 
     public boolean hasFaults() {
