@@ -11,6 +11,7 @@ public final class TermsFormingTest {
         Promise p = new Promise("Terms, 4 FORMING");
         p.says(PAUSED, "it is", TermsFormingTest::noFormingWhilePaused);
         p.says(FEWER_GROUPS, "as many, and one goes", TermsFormingTest::asManyGroupsAsWidth);
+        p.says(FEWER_GROUPS, "as many, and not all ASKED", TermsFormingTest::answeredGroupsCount);
         p.says(FEWER_GROUPS, "more by HALVING", TermsFormingTest::moreGroupsThanWidth);
         p.says("of those that WAIT, in ORDER", "JUMPED, RANK, number", TermsFormingTest::inOrder);
         p.says(UP_TO_MOST, "fewer, as many, one more", TermsFormingTest::fewerAsManyOneMore);
@@ -40,6 +41,15 @@ public final class TermsFormingTest {
             q.answer(0, true);
             due.steps(q, 1, 4, 3, 0);
             due.is("groups()", q.groups(), width);
+        }
+    }
+
+    private static void answeredGroupsCount(Due due) {
+        for (boolean passes : new boolean[] {true, false}) {
+            MergeQueue q = Made.asked(1, 2, 1, 3, 2);
+            q.answer(1, passes);
+            due.steps(q, 0);
+            due.is("groups()", q.groups(), 2);
         }
     }
 

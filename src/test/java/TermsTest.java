@@ -21,8 +21,9 @@ public final class TermsTest {
         p.says("a STATE: NEW (0), ASKED (1), FAILED (2), PASSED (3)", "each of them", TermsTest::eachState);
         p.says(BASE, "none in front, and all in front", TermsTest::bases);
         p.says(ANEW, "it is asked as often again", TermsTest::askedAsOftenAgain);
-        p.says(FIRST, "LANDING before all", TermsTest::landingBeforeAll);
-        p.says(FIRST, "HALVING before ASKING and FORMING", TermsTest::halvingBeforeAskingAndForming);
+        p.says(FIRST, "LANDING before ASKING", TermsTest::landingBeforeAsking);
+        p.says(FIRST, "LANDING before FORMING", TermsTest::landingBeforeForming);
+        p.says(FIRST, "HALVING before FORMING", TermsTest::halvingBeforeForming);
         p.says(FIRST, "ASKING before FORMING", TermsTest::askingBeforeForming);
         p.says("`NONE = -1`", "its value", TermsTest::valueOfNone);
         p.finish();
@@ -146,20 +147,26 @@ public final class TermsTest {
         due.is("the second failure anew", q.answer(0, false), 2);
     }
 
-    private static void landingBeforeAll(Due due) {
-        MergeQueue q = Made.asked(2, 4, 1, 8, 2);
+    private static void landingBeforeAsking(Due due) {
+        MergeQueue q = Made.asked(1, 2, 1, 2, 1);
         due.steps(q, 4);
         q.answer(0, true);
-        q.answer(1, false);
-        due.is("a failed one, a new one, two that wait", View.groups(q), "3:0,1/0+0 2:2,3/1+2 0:4,5/0+4");
-        due.steps(q, 1);
+        due.is("one that passed, a new one", View.groups(q), "3:0/0+0 0:1/0+1");
+        due.steps(q, 1, 3);
     }
 
-    private static void halvingBeforeAskingAndForming(Due due) {
-        MergeQueue q = Made.asked(2, 4, 1, 8, 2);
-        due.steps(q, 4);
+    private static void landingBeforeForming(Due due) {
+        MergeQueue q = Made.asked(1, 2, 1, 2, 1);
+        q.answer(0, true);
+        due.is("one waits", View.waiting(q), "1");
+        due.steps(q, 1, 4);
+    }
+
+    private static void halvingBeforeForming(Due due) {
+        MergeQueue q = Made.asked(1, 2, 1, 2, 1);
         q.answer(0, false);
-        due.steps(q, 2);
+        due.is("one waits", View.waiting(q), "1");
+        due.steps(q, 2, 4);
     }
 
     private static void askingBeforeForming(Due due) {
