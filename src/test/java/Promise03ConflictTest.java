@@ -13,7 +13,7 @@ public final class Promise03ConflictTest {
         p.says(TOLD, "two that wait", Promise03ConflictTest::twoThatWait);
         p.says(TOLD, "either way round", Promise03ConflictTest::holdsEitherWayRound);
         p.says(TOLD, "the numbers at the edges", Promise03ConflictTest::numbersAtTheEdges);
-        p.says(TOLD, "all pairs of forty", Promise03ConflictTest::allInConflictWithOne);
+        p.says(TOLD, "one with all the others", Promise03ConflictTest::allInConflictWithOne);
         p.says(NONE_SUCH, "one of them", Promise03ConflictTest::oneOfThemIsNone);
         p.says(NONE_SUCH, "both of them", Promise03ConflictTest::bothAreNone);
         p.says(NONE_SUCH, "nothing is kept for later", Promise03ConflictTest::nothingIsKeptForLater);
