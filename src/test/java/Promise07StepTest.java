@@ -1,4 +1,4 @@
-/** Promise 7: step. What each kind does is in TermsLandingHalvingTest and TermsAskingFormingTest. */
+/** Promise 7: step. What each kind does is in the tests of the Terms. */
 public final class Promise07StepTest {
     private static final String WHICH = "A STEP: which one was done";
     private static final String NONE_CAN_BE = "0 if none can be";

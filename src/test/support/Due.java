@@ -2,9 +2,28 @@ import java.util.function.IntUnaryOperator;
 
 /** Compares answers with those that are due, prints each that differs, and ends the test. */
 public final class Due {
-    private String part = "";
+    private static final long LONGEST_MILLIS = 5 * 60 * 1000L;
+
+    private volatile String part = "";
     private int compared;
     private int wrong;
+
+    /** A call that never ends is a fault as well: without this, the tests would wait for it. */
+    public Due() {
+        Thread watch = new Thread(this::endLate);
+        watch.setDaemon(true);
+        watch.start();
+    }
+
+    private void endLate() {
+        try {
+            Thread.sleep(LONGEST_MILLIS);
+        } catch (InterruptedException stopped) {
+            return;
+        }
+        System.out.println(part + "has not ended");
+        Runtime.getRuntime().halt(1);
+    }
 
     /** Runs the test of one part; what is told in it bears the part's name. */
     public void in(String name, Runnable test) {
